@@ -48,11 +48,9 @@ public final class MilkFirst {
     private final ArrayList<Plan> plans = new ArrayList<Plan>();
     private final ArrayList<Rule> rules = new ArrayList<Rule>();
     private final ArrayList<Sitting> sittings = new ArrayList<Sitting>();
-    private final int[] tape = new int[MOST_BYTES];
-    private int tapeLength = 0;
+    private final Tape tape = new Tape();
     private int toldInAll = 0;
     private final int[] refusals = new int[REFUSAL_KINDS];
-    private final Reader reader = new Reader(tape);
     private final Ends able = new Ends();
     private final Ends trial = new Ends();
     private final Looking looking = new Looking();
@@ -112,24 +110,19 @@ public final class MilkFirst {
 
     public int feed(int n, long bytes) {
         if (n < 1) return refuse(BELOW);
-        if (n > MOST_AT_ONCE || tapeLength + n > MOST_BYTES) return refuse(ROOM);
-        long left = bytes;
+        if (n > MOST_AT_ONCE || tape.fed() + n > MOST_BYTES) return refuse(ROOM);
         for (int i = 0; i < n; i++) {
-            if (tapeLength >= 0 && tapeLength < tape.length) {
-                tape[tapeLength] = (int) (left & 255);
-                tapeLength++;
-            }
-            left = left >>> 8;
+            tape.take((int) (bytes >>> 8 * i & 255));
         }
-        return tapeLength;
+        return tape.fed();
     }
 
     public int rule() {
         if (rules.size() >= MOST_RULES) return refuse(ROOM);
-        int fault = reader.read(tapeLength);
-        tapeLength = 0;
+        int fault = tape.read();
+        tape.clear();
         if (fault >= 0) return FAULT_BASE - fault;
-        rules.add(new Rule(reader.codeRead()));
+        rules.add(new Rule(tape.codeRead()));
         return rules.size() - 1;
     }
 
@@ -400,7 +393,7 @@ public final class MilkFirst {
             case 1: return rules.size();
             case 2: return sittings.size();
             case 3: return toldInAll;
-            case 4: return tapeLength;
+            case 4: return tape.fed();
             default: return refusalsCounted(what - FIRST_REFUSAL_COUNT);
         }
     }
@@ -610,7 +603,7 @@ public final class MilkFirst {
         private void fillBlocks(int n, int k, int a) {
             Arrays.fill(block, 0);
             long blockCases = fillFixed(block, BLOCK_CUPS, k, a);
-            cases[0] = 1;
+            if (cases.length > 0) cases[0] = 1;
             allCases = 1;
             for (int i = 0; i < n; i++) {
                 joinBlock();
@@ -625,7 +618,7 @@ public final class MilkFirst {
                     joined[i + j] += cases[i] * block[j];
                 }
             }
-            System.arraycopy(joined, 0, cases, 0, cases.length);
+            System.arraycopy(joined, 0, cases, 0, Math.min(joined.length, cases.length));
         }
 
         /** By how many of the k milk first seem so (good), and how many of the others seem so too (bad). */
@@ -643,7 +636,7 @@ public final class MilkFirst {
             return Numbers.power(ABLEST, n) * lots;
         }
 
-        /** She draws all that she names from those that seem milk first, or has all these and draws from the rest. */
+        /** She draws all from those that seem milk first; or she has all these, and draws from the rest. */
         private static void addNamed(long[] into, int n, int k, int good, int bad, long seem) {
             boolean suffice = good + bad >= k;
             int had = suffice ? 0 : good;
@@ -702,7 +695,7 @@ public final class MilkFirst {
         /** In how many of ten cases for each of n cups she stops. */
         long stops(int n, int set, int d, int a) {
             Arrays.fill(ahead, 0);
-            ahead[MOST_CUPS] = 1;
+            if (MOST_CUPS < ahead.length) ahead[MOST_CUPS] = 1;
             long stopped = 0;
             for (int cup = 0; cup < n && cup < MOST_CUPS; cup++) {
                 taste(a);
@@ -718,7 +711,7 @@ public final class MilkFirst {
                 if (i + 1 < after.length) after[i + 1] += ahead[i] * a;
                 if (i > 0) after[i - 1] += ahead[i] * (ABLEST - a);
             }
-            System.arraycopy(after, 0, ahead, 0, ahead.length);
+            System.arraycopy(after, 0, ahead, 0, Math.min(after.length, ahead.length));
         }
 
         private long stopFrom(int d) {
@@ -732,27 +725,38 @@ public final class MilkFirst {
     }
 
     /**
-     * Reads a text into a code that a RULE can work through without recursion: what an operation
-     * works on comes before it. A number stands as it is, a letter or an operation as its sign below 0.
+     * THE TAPE. Its text is read into a code that a RULE can work through without recursion: what an
+     * operation works on comes before it. A number stands as it is, a letter or an operation as its
+     * sign below 0.
      */
-    private static final class Reader {
+    private static final class Tape {
         private static final int DEEPEST = 4;
         private static final int END = -1;
 
-        private final int[] text;
+        private final int[] text = new int[MOST_BYTES];
         private final int[] code = new int[MOST_BYTES];
         private int textLength = 0;
         private int codeLength = 0;
         private int at = 0;
         private int fault = -1;
 
-        Reader(int[] text) {
-            this.text = text;
+        int fed() {
+            return textLength;
+        }
+
+        void take(int sign) {
+            if (textLength >= 0 && textLength < text.length) {
+                text[textLength] = sign;
+                textLength++;
+            }
+        }
+
+        void clear() {
+            textLength = 0;
         }
 
         /** The place of the FAULT; -1, if there is none. */
-        int read(int length) {
-            textLength = length;
+        int read() {
             codeLength = 0;
             at = 0;
             fault = -1;
@@ -862,7 +866,7 @@ public final class MilkFirst {
         }
     }
 
-    /** A RULE, as the Reader has written it. What holds stands as 1, what doesn't as 0. */
+    /** A RULE, as THE TAPE's reading has written it. What holds stands as 1, what doesn't as 0. */
     private static final class Rule {
         private final int[] code;
         private final long[] stack;
@@ -881,7 +885,7 @@ public final class MilkFirst {
                     push(entry);
                 } else if (entry == -'!') {
                     push(1 - pop());
-                } else if (Reader.isLetter(-entry)) {
+                } else if (Tape.isLetter(-entry)) {
                     push(valueOf(-entry, asked, right));
                 } else {
                     long second = pop();
@@ -934,7 +938,7 @@ public final class MilkFirst {
         private Sets() {
         }
 
-        /** As many as lie below it with the same count: for each cup in it those that lack it but hold all above. */
+        /** How many sets of as many lie below it: for each cup in it those that lack it, and agree above it. */
         static int numberOf(int n, int set) {
             long below = 0;
             int held = 0;
@@ -962,7 +966,7 @@ public final class MilkFirst {
             return set;
         }
 
-        /** The next of as many cups: the lowest run's top bit goes up by one, the rest of it down to the bottom. */
+        /** The next of as many cups: of the lowest run the top goes up by one, the rest to the bottom. */
         static int next(int set) {
             int raised = set + (set & -set);
             int down = Integer.bitCount(set ^ raised) - 2;
@@ -1050,7 +1054,7 @@ public final class MilkFirst {
             return whole / least * partOf(above, below, 0);
         }
 
-        /** Less than 0, 0 or more, as the fraction is to the thousandths; cut by the common factor, so that nothing goes round. */
+        /** Below 0, 0 or above, as the fraction is to the thousandths; first cut, so that nothing goes round. */
         static int against(long above, long below, int thousandths) {
             long factor = commonFactor(below, THOUSAND);
             if (factor == 0) return 0;
