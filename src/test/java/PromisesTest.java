@@ -262,6 +262,8 @@ public final class PromisesTest {
         fraction("more right, loose", x.believed(1, 0, 5, 0), x.believed(1, 0, 5, 1), 93, 256);
         fraction("more right, surely", x.believed(1, 4, 10, 0), x.believed(1, 4, 10, 1), 1, 1);
         fraction("never", x.believed(2, 0, 5, 0), x.believed(2, 0, 5, 1), 0, 1);
+        fraction("turned, two blocks", x.believed(0, 4, 0, 0), x.believed(0, 4, 0, 1), 0, 1);
+        fraction("turned, three of three", x.believed(0, 3, 0, 0), x.believed(0, 3, 0, 1), 1, 1);
         due("part", x.believed(9, 9, 5, 2), L + 2);
         due("rule", x.believed(3, 0, -1, 0), L + 1);
         due("plan", x.believed(0, 5, -1, 0), L + 1);
@@ -520,6 +522,7 @@ public final class PromisesTest {
         due("two never", x.free(0, 3, 2), 0);
         due("marks beyond n", x.free(0, 4064 + 3, 3), 6);
         due("no mark", x.free(0, 0, 3), 10);
+        due("all marked", x.free(0, 4095, 2), 10);
         due("loose, before the mark", x.free(1, -1, 3), -3);
         due("no plan", x.free(3, -1, 3), -1);
         due("mark below", x.free(0, -1, 6), -4);
