@@ -709,7 +709,7 @@ public final class MilkFirst {
             Arrays.fill(after, 0);
             for (int i = 0; i < ahead.length; i++) {
                 if (i + 1 < after.length) after[i + 1] += ahead[i] * a;
-                if (i > 0) after[i - 1] += ahead[i] * (ABLEST - a);
+                if (i > 0 && i - 1 < after.length) after[i - 1] += ahead[i] * (ABLEST - a);
             }
             System.arraycopy(after, 0, ahead, 0, Math.min(after.length, ahead.length));
         }
@@ -938,7 +938,7 @@ public final class MilkFirst {
         private Sets() {
         }
 
-        /** How many sets of as many lie below it: for each cup in it those that lack it, and agree above it. */
+        /** For each cup in the set, those of as many cups lie below it that lack this cup and agree above it. */
         static int numberOf(int n, int set) {
             long below = 0;
             int held = 0;
@@ -1003,7 +1003,7 @@ public final class MilkFirst {
             1, 10, 45, 120, 210, 252, 210, 120, 45, 10, 1,
             1, 11, 55, 165, 330, 462, 462, 330, 165, 55, 11, 1,
             1, 12, 66, 220, 495, 792, 924, 792, 495, 220, 66, 12, 1};
-        /** The least that each number up to the place divides; each number of ways up to there does, too. */
+        /** The least that each number up to the place divides; each number of ways up to there does. */
         private static final int[] EVEN_LOTS = {1, 1, 2, 6, 12, 60, 60, 420, 840, 2520, 2520, 27720, 27720};
         /** Euclid's steps for two longs are fewer than a hundred. */
         private static final int EUCLID_STEPS = 1000;
@@ -1054,7 +1054,7 @@ public final class MilkFirst {
             return whole / least * partOf(above, below, 0);
         }
 
-        /** Below 0, 0 or above, as the fraction is to the thousandths; first cut, so that nothing goes round. */
+        /** Below 0, 0 or above, as the fraction is to the thousandths; cut, so that nothing goes round. */
         static int against(long above, long below, int thousandths) {
             long factor = commonFactor(below, THOUSAND);
             if (factor == 0) return 0;
