@@ -24,7 +24,7 @@ public final class LanguageTest {
     private static final String[] NOT_ALLOWED = {
         "\\bthrow\\b", "\\btry\\b", "\\bcatch\\b", "\\bsynchronized\\b", "\\bassert\\b", "\\bprotected\\b", "\\bpackage\\b",
         "->", "::", "Exact\\b", "\\bThread\\b", "\\bSystem\\.(?!arraycopy\\b)", "\\bRandom\\b", "\\bObject\\b", "@",
-        "\\bwhile\\b", "\\bequals\\b", "\\bhashCode\\b", "\\bstatic \\{", "\\bdouble\\b", "\\bfloat\\b"};
+        "\\bhashCode\\b", "\\bstatic \\{"};
     private static final String[] ALLOWED_IMPORTS = {"java.util.ArrayList", "java.util.Arrays", "java.util.List"};
 
     public static void main(String[] args) throws Exception {
