@@ -31,7 +31,7 @@ final class BeliefsBounds {
     }
 
     private void terms() {
-        b.terms("==== III.", "==== IV.");
+        b.part("==== III.", "==== IV.");
         lookingWell();
         kepts();
         manys();
@@ -140,6 +140,10 @@ final class BeliefsBounds {
         one.plan(Given.LOOSE, 1, 0);
         b.fraction("1 of 4096, 1 of 2", part -> one.letter(0, 0, part), 1, 2049);
         b.fraction("1 of 4096, 1 of 2, the other", part -> one.letter(0, 1, part), 2048, 2049);
+        MilkFirst sure = Given.rules("n=1|r=s");
+        sure.plan(Given.LOOSE, 12, 0);
+        sure.plan(Given.LOOSE, 1, 0);
+        b.fraction("1 of 4096, and the other always", part -> sure.letter(0, 0, part), 1, 4097);
         MilkFirst x = Given.rules("r=s", "r=0&p=0");
         for (int i = 0; i < 30; i++) {
             x.plan(i < 29 ? Given.FIXED : Given.LOOSE, 2, 1);
@@ -272,7 +276,8 @@ final class BeliefsBounds {
         }
         b.sentence("-2; -1 either; -3 it BELIEVES none of any.");
         some.refused("letter", L, (y, v) -> y.letter(v[0], v[1], v[2]), new int[][] {RULES, PLANS, PARTS},
-            Mixes.no(-2, v -> Given.noPart(v[2])), Mixes.no(-1, v -> Given.noRule(v[0]) || Given.noPlan(v[1])), Mixes.no(-3, v -> v[0] == 1));
+            Mixes.no(-2, v -> Given.noPart(v[2])), Mixes.no(-1, v -> Given.noRule(v[0]) || Given.noPlan(v[1])),
+                Mixes.no(-3, v -> v[0] == 1));
         MilkFirst none = Given.rules("r=s");
         b.due("no PLANS", none.letter(0, 0, 0), L + 1);
         b.due("no RULES", Given.plan(Given.LOOSE, 1, 0).letter(0, 0, 0), L + 1);

@@ -12,7 +12,7 @@ public final class BoundariesTest {
         new BeliefsBounds(bounds).run();
         LotsBounds lots = new LotsBounds(bounds);
         DrawerBounds drawer = new DrawerBounds(bounds);
-        bounds.terms("==== IV.", "## Promise 1:");
+        bounds.part("==== IV.", "## Promise 1:");
         lots.terms();
         drawer.terms();
         bounds.allQuoted();

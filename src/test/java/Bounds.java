@@ -4,7 +4,7 @@ import java.util.List;
 
 /**
  * What the tests of boundaries share: each quotes the document's sentence that it tests, in the
- * promise or the part of the Terms where it stands; a sentence that isn't there, or one that no test
+ * promise or the part where it stands; a sentence that isn't there, or one that no test
  * quotes, is a failure too.
  */
 final class Bounds {
@@ -31,9 +31,10 @@ final class Bounds {
         checks.holds(place + " stands in the document", sentences.within("## " + place + ": ", " ## "));
     }
 
-    void terms(String start, String end) {
-        place = "Terms";
-        checks.holds("the Terms have " + start, sentences.within(start, end));
+    /** What stands behind the one and before the other. */
+    void part(String start, String end) {
+        place = start;
+        checks.holds(start + " stands in the document", sentences.within(start, end));
     }
 
     /** From here on the answers are due by these words. */

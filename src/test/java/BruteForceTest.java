@@ -69,11 +69,11 @@ public final class BruteForceTest {
     }
 
     private static void checkFewest() {
-        MilkFirst x = new MilkFirst();
         int[] shares = {0, 1, 100, 333, 500, 800, 900, 999, 1000};
         for (int kind = 0; kind <= 3; kind++) {
             for (int p : THOUSANDTHS) {
                 for (int a = 0; a <= 10; a++) {
+                    MilkFirst x = new MilkFirst();
                     for (int q : shares) {
                         CHECKS.due("fewest " + kind + " " + p + " " + a + " " + q, x.fewest(kind, p, a, q),
                                 fewest(kind, p, a, q));
@@ -99,19 +99,20 @@ public final class BruteForceTest {
     }
 
     private static void checkLooking() {
-        MilkFirst x = new MilkFirst();
         for (int n = 1; n <= 12; n++) {
             int step = n <= 5 ? 1 : n <= 9 ? 13 : 371;
             for (int set = 0; set < 1 << n; set += step) {
-                checkLookingAt(x, n, set);
+                checkLookingAt(n, set);
             }
-            checkLookingAt(x, n, (1 << n) - 1);
-            checkLookingAt(x, n, 1 << n - 1);
+            checkLookingAt(n, (1 << n) - 1);
+            checkLookingAt(n, 1 << n - 1);
+            MilkFirst x = new MilkFirst();
             CHECKS.due("well " + n + " with cups beyond", x.well(n, 4095, 1, 7, 0), x.well(n, (1 << n) - 1, 1, 7, 0));
         }
     }
 
-    private static void checkLookingAt(MilkFirst x, int n, int set) {
+    private static void checkLookingAt(int n, int set) {
+        MilkFirst x = new MilkFirst();
         Ratio[] nobody = new Ratio[13];
         for (int d = 1; d <= 12; d++) {
             nobody[d] = Tasting.stops(n, set, d, 5);
@@ -158,35 +159,38 @@ public final class BruteForceTest {
         }
     }
 
-    /** Thirty PLANS of all KINDS in one drawer, and RULES that hold for some of their ENDS. */
+    /** Thirty PLANS of all KINDS, and RULES that hold for some of their ENDS. */
     private static void checkLetters() {
-        MilkFirst x = new MilkFirst();
         int[][] shapes = new int[30][];
         for (int i = 0; i < 30; i++) {
             int kind = i % 5;
             int n = MOST_N[kind] - i / 5 % (MOST_N[kind] - LEAST_N[kind] + 1);
             int k = kind == 1 ? 1 + i % (n - 1) : kind == 4 ? 1 + i / 5 % 3 : 0;
             shapes[i] = new int[] {kind, n, k};
-            CHECKS.due("plan " + i, x.plan(kind, n, k), i);
         }
-        String[] texts = {"r=s", "w<2", "r>n-k", "r*2>s&!p=0", "r-w*2<0-3", "n=12|k=2", "p=4"};
-        for (int rule = 0; rule < texts.length; rule++) {
-            CHECKS.due("rule " + texts[rule], Checks.rule(x, texts[rule]), rule);
-            Ratio[] believed = new Ratio[30];
-            Ratio all = Ratio.ZERO;
-            for (int i = 0; i < 30; i++) {
-                Ratio[] ends = Tasting.ends(shapes[i][0], shapes[i][1], shapes[i][2], 5);
-                believed[i] = Ratio.ZERO;
-                for (int right = 0; right < ends.length; right++) {
-                    if (x.believes(rule, i, right) == 1) believed[i] = believed[i].plus(ends[right]);
-                }
-                all = all.plus(believed[i]);
+        for (String text : new String[] {"r=s", "w<2", "r>n-k", "r*2>s&!p=0", "r-w*2<0-3", "n=12|k=2", "p=4"}) {
+            checkLettersBy(text, shapes);
+        }
+    }
+
+    private static void checkLettersBy(String text, int[][] shapes) {
+        MilkFirst x = new MilkFirst();
+        CHECKS.due("rule " + text, Checks.rule(x, text), 0);
+        Ratio[] believed = new Ratio[shapes.length];
+        Ratio all = Ratio.ZERO;
+        for (int i = 0; i < shapes.length; i++) {
+            CHECKS.due("plan " + i, x.plan(shapes[i][0], shapes[i][1], shapes[i][2]), i);
+            Ratio[] ends = Tasting.ends(shapes[i][0], shapes[i][1], shapes[i][2], 5);
+            believed[i] = Ratio.ZERO;
+            for (int right = 0; right < ends.length; right++) {
+                if (x.believes(0, i, right) == 1) believed[i] = believed[i].plus(ends[right]);
             }
-            for (int i = 0; i < 30; i++) {
-                Ratio due = believed[i].over(all);
-                CHECKS.due("letter " + texts[rule] + " " + i, x.letter(rule, i, 0), due.part(0));
-                CHECKS.due("letter " + texts[rule] + " " + i, x.letter(rule, i, 1), due.part(1));
-            }
+            all = all.plus(believed[i]);
+        }
+        for (int i = 0; i < shapes.length; i++) {
+            Ratio due = believed[i].over(all);
+            CHECKS.due("letter " + text + " " + i, x.letter(0, i, 0), due.part(0));
+            CHECKS.due("letter " + text + " " + i, x.letter(0, i, 1), due.part(1));
         }
     }
 
@@ -199,8 +203,7 @@ public final class BruteForceTest {
     }
 
     private static void checkLotsOf(int n, int k) {
-        MilkFirst x = new MilkFirst();
-        x.plan(1, n, k);
+        MilkFirst x = Given.plan(1, n, k);
         String name = "lots of " + n + " " + k + ": ";
         int found = 0;
         int even = 0;
@@ -209,6 +212,8 @@ public final class BruteForceTest {
         int mark = (n * 389 + k * 1013) % 4096;
         int[] free = new int[n + 1];
         for (int set = -2; set < (1 << n) + 5; set++) {
+            // Four calls a set: a new object before the 512th.
+            if (set % 100 == 0) x = Given.plan(1, n, k);
             if (set < 0 || set >= 1 << n || Integer.bitCount(set) != k) {
                 CHECKS.due(name + "rank " + set, x.rank(0, set), -1);
                 CHECKS.due(name + "lean " + set, x.lean(0, set), 1000000001);
@@ -233,6 +238,7 @@ public final class BruteForceTest {
             free[alike]++;
             found++;
         }
+        x = Given.plan(1, n, k);
         CHECKS.due(name + "lots", x.lots(0), found);
         CHECKS.due(name + "lot beyond", x.lot(0, found), -1);
         CHECKS.due(name + "even", x.even(0), even);

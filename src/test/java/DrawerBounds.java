@@ -112,6 +112,7 @@ final class DrawerBounds {
         b.due("just p", x.turned(0, 50), 3);
         b.due("just more than p", x.turned(0, 49), -9);
         b.due("just p with one", x.turned(0, 450), 1);
+        b.due("all may, and it were still less with one more", x.turned(0, 1000), 0);
         b.due("just more with one", x.turned(0, 449), 2);
         b.due("of all told all right", x.turned(1, 999), -9);
         b.due("of all told all may", x.turned(1, 1000), 0);
@@ -262,7 +263,8 @@ final class DrawerBounds {
         b.sentence("-1; -4; -6 (above SIZE, 30).");
         int[] rights = Mixes.some(MIN_VALUE, -1, 0, 1, 2, 3, 4, 5, 6, MAX_VALUE);
         int[][] values = {PLANS, rights, {0, 1}};
-        some.refused("sit", 0, (y, v) -> y.sit(v[0], v[1], v[2] == 1), values, Mixes.no(-1, v -> Given.noPlan(v[0])), Mixes.no(-4, v -> v[1] < 0),
+        some.refused("sit", 0, (y, v) -> y.sit(v[0], v[1], v[2] == 1), values, Mixes.no(-1, v -> Given.noPlan(v[0])),
+            Mixes.no(-4, v -> v[1] < 0),
             Mixes.no(-6, v -> v[1] > Given.size(v[0])));
         values[0] = Mixes.some(MIN_VALUE, -1, 0, 4, 30, MAX_VALUE);
         new Mixes(b, Given::full).refused("sit, of 30", 0, (y, v) -> y.sit(v[0], v[1], v[2] == 1), values,
@@ -301,7 +303,8 @@ final class DrawerBounds {
             }
         }
         b.sentence("-1; -2.");
-        some.refused("drawer", 0, (y, v) -> y.drawer(v[0], v[1]), new int[][] {PLANS, Mixes.around(0, 4)}, Mixes.no(-1, v -> Given.noPlan(v[0])),
+        some.refused("drawer", 0, (y, v) -> y.drawer(v[0], v[1]), new int[][] {PLANS, Mixes.around(0, 4)},
+            Mixes.no(-1, v -> Given.noPlan(v[0])),
             Mixes.no(-2, v -> v[1] < 0 || v[1] > 4));
         b.allQuoted();
     }

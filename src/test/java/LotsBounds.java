@@ -5,7 +5,8 @@ import static java.lang.Integer.MIN_VALUE;
 final class LotsBounds {
     private static final int[] PLANS = Mixes.some(MIN_VALUE, -1, 0, 1, 2, 3, 4, 5, MAX_VALUE);
     /** Of FIXED 5 2: lots, sets that are none, and such as lie beyond. */
-    private static final int[] SETS = Mixes.some(MIN_VALUE, MIN_VALUE + 3, -1, 0, 1, 2, 3, 4, 7, 17, 24, 31, 32, 33, 48, 4095, 4096, 4099, MAX_VALUE);
+    private static final int[] SETS = Mixes.some(MIN_VALUE, MIN_VALUE + 3, -1, 0, 1, 2, 3, 4, 7, 17, 24, 31, 32, 33, 48, 4095,
+        4096, 4099, MAX_VALUE);
     private static final int[] MARKS = Mixes.around(0, 4095);
 
     private final Bounds b;
@@ -168,7 +169,8 @@ final class LotsBounds {
         b.sentence("-1 (no such one, too); -3.");
         // Of a PLAN that is not FIXED nobody knows how many there were: -3, whatever i.
         int[] numbers = Mixes.around(0, 9);
-        some.refused("lot", 0, (y, v) -> y.lot(v[0], v[1]), new int[][] {PLANS, numbers}, noPlan(), notFixed(), Mixes.no(-1, v -> v[1] < 0 || v[1] > 9));
+        some.refused("lot", 0, (y, v) -> y.lot(v[0], v[1]), new int[][] {PLANS, numbers}, noPlan(), notFixed(),
+            Mixes.no(-1, v -> v[1] < 0 || v[1] > 9));
         b.due("beyond the fewest", fixed(2, 1).lot(0, 2), -1);
         b.due("beyond the most", fixed(12, 6).lot(0, 924), -1);
         b.allQuoted();
@@ -182,7 +184,8 @@ final class LotsBounds {
         b.due("of the first", x.rank(1, 3), 0);
         b.due("of the last", x.rank(1, 24), 9);
         b.sentence("-1 (no LOT, too); -3.");
-        some.refused("rank", 0, (y, v) -> y.rank(v[0], v[1]), new int[][] {PLANS, SETS}, noPlan(), notFixed(), Mixes.no(-1, v -> noLot(v[1])));
+        some.refused("rank", 0, (y, v) -> y.rank(v[0], v[1]), new int[][] {PLANS, SETS}, noPlan(), notFixed(),
+            Mixes.no(-1, v -> noLot(v[1])));
         b.due("of the twelve the last cup", fixed(12, 1).rank(0, 2048), 11);
         b.due("of the twelve the next", fixed(12, 1).rank(0, 4096), -1);
         b.due("the sign's bit is no cup", fixed(12, 1).rank(0, MIN_VALUE), -1);

@@ -17,6 +17,7 @@ final class PlansBounds {
     }
 
     void run() {
+        lastCall();
         terms();
         newObject();
         plan();
@@ -26,8 +27,26 @@ final class PlansBounds {
         mean();
     }
 
+    private void lastCall() {
+        b.part("## What it is", "## The public face");
+        b.sentence("An object is used for at most 512 calls after it has been made; what later calls answer is free.");
+        MilkFirst refusing = new MilkFirst();
+        MilkFirst reckoning = Given.plan(Given.FIXED, 12, 6);
+        MilkFirst reading = Given.plan(Given.LOOSE, 1, 0);
+        for (int i = 1; i <= 510; i++) {
+            b.due("refused, call " + i, refusing.size(-1), -1);
+            b.due("reckoned, call " + (i + 1), reckoning.belief(0, 99, 99, i % 11, 121) > 0 ? 1 : 0, 1);
+            if (i % 2 == 1) b.due("fed, call " + (i + 1), reading.feed(2, 0), 2);
+            else b.due("a FAULT, call " + (i + 1), reading.rule(), -20);
+        }
+        b.due("refused, call 511", refusing.size(-1), -1);
+        b.due("call 512 counts them", refusing.count(11), 511);
+        b.due("call 512 reckons", reckoning.least(0, 5, 12, 1), 924);
+        b.due("call 512 makes", reading.plan(Given.LOOSE, 12, 0), 1);
+    }
+
     private void terms() {
-        b.terms("## Terms", "==== II.");
+        b.part("## Terms", "==== II.");
         planNumbers();
         loose();
         fixed();
@@ -161,7 +180,8 @@ final class PlansBounds {
 
     private void sizes() {
         b.sentence("SIZE: the most RIGHT (N, of BLOCKED 4 N).");
-        int[][] plans = {{0, 1, 1}, {0, 12, 12}, {1, 2, 2}, {1, 12, 12}, {2, 1, 1}, {2, 6, 6}, {3, 1, 1}, {3, 4, 4}, {4, 1, 4}, {4, 2, 8}, {4, 3, 12}};
+        int[][] plans = {{0, 1, 1}, {0, 12, 12}, {1, 2, 2}, {1, 12, 12}, {2, 1, 1}, {2, 6, 6}, {3, 1, 1}, {3, 4, 4}, {4, 1, 4},
+            {4, 2, 8}, {4, 3, 12}};
         for (int[] plan : plans) {
             b.due("KIND " + plan[0] + " N " + plan[1], Given.plan(plan[0], plan[1], 1).size(0), plan[2]);
         }

@@ -31,7 +31,7 @@ final class RulesBounds {
     }
 
     private void terms() {
-        b.terms("==== II.", "==== III.");
+        b.part("==== II.", "==== III.");
         ruleNumbers();
         bytesAtMost();
         ors();
@@ -67,12 +67,15 @@ final class RulesBounds {
         MilkFirst x = Given.plan(Given.LOOSE, 12, 0);
         for (int i = 0; i < 20; i++) {
             b.due("a FAULT before " + i, Checks.rule(x, "r="), -22);
-            b.due("rule " + i, Checks.rule(x, "r=" + i), i);
+            b.due("rule " + i, Checks.rule(x, "r=" + i % 13), i);
         }
         b.due("one more", Checks.rule(x, "r=1"), -6);
         b.due("count", x.count(1), 20);
-        b.due("the first is there", x.believes(0, 0, 0), 1);
-        b.due("the last is there", x.believes(19, 0, 0), 0);
+        for (int i = 0; i < 20; i++) {
+            for (int right = 0; right <= 12; right++) {
+                b.due("rule " + i + " of " + right, x.believes(i, 0, right), right == i % 13 ? 1 : 0);
+            }
+        }
         b.due("one more isn't", x.believes(20, 0, 0), -1);
     }
 
@@ -83,6 +86,9 @@ final class RulesBounds {
         b.due("forty", Checks.rule(x, forty), 0);
         b.due("all forty are read", x.believes(0, 0, 4), 1);
         b.due("all forty are read", x.believes(0, 0, 3), 0);
+        // Each of these bytes is a sign of its own, the first is the last that is worked out.
+        holds("!" + "r=4&".repeat(9) + "r=4", false);
+        holds("!r=5&" + "r=4&".repeat(8) + "r=4", true);
         Checks.feed(x, forty);
         b.due("forty and one", x.feed(1, '1'), -6);
         b.due("forty stay", x.count(4), 40);
@@ -129,6 +135,14 @@ final class RulesBounds {
         holds("!!r=4", true);
         holds("!r=5&r=4", true);
         holds("!r=4|r=4", true);
+        holds("!r<4", true);
+        holds("!r<5", false);
+        holds("!r>4", true);
+        holds("!r>3", false);
+        holds("r=4&r<4", false);
+        holds("r=4&r>4", false);
+        holds("r<4|r=4", true);
+        holds("r>4|r=4", true);
         holds("!(r=5|r=4)", false);
         holds("(r=5|r=4)&s=7", true);
         holds("r=4|(r=4&s=6)", true);
@@ -228,6 +242,9 @@ final class RulesBounds {
         fault("r=x", 2);
         fault("r=4x", 3);
         fault("r=4xx=", 3);
+        fault("r=4\0", 3);
+        fault("\0", 0);
+        fault("r=4\377", 3);
         taken("r=44");
         fault("r=444", 4);
         fault("r=4&", 4);
@@ -258,7 +275,8 @@ final class RulesBounds {
         b.sentence("LINE of a PLAN for p (0 .. 1000 thousandths): the least RIGHT such that a NOBODY has that many or more"
             + " in no more than p thousandths of all cases; SIZE and 1, if none.");
         // Three of 3: 1 of 8. Two or more: 1 of 2. One or more: 7 of 8.
-        int[][] due = {{0, 4}, {1, 4}, {124, 4}, {125, 3}, {126, 3}, {499, 3}, {500, 2}, {501, 2}, {874, 2}, {875, 1}, {876, 1}, {999, 1}, {1000, 0}};
+        int[][] due = {{0, 4}, {1, 4}, {124, 4}, {125, 3}, {126, 3}, {499, 3}, {500, 2}, {501, 2}, {874, 2}, {875, 1}, {876, 1},
+            {999, 1}, {1000, 0}};
         MilkFirst x = Given.plan(Given.LOOSE, 3, 0);
         for (int[] one : due) {
             b.due("line for " + one[0], x.line(0, one[0]), one[1]);
@@ -282,7 +300,8 @@ final class RulesBounds {
         // For p, one surely right (10, 1000) needs N cups, pairs, threes: KIND, p, N.
         int[][] sure = {{0, 500, 1}, {0, 499, 2}, {0, 250, 2}, {0, 249, 3}, {0, 125, 3}, {0, 124, 4}, {0, 1, 10}, {0, 0, -9},
             {1, 500, 2}, {1, 499, 3}, {1, 334, 3}, {1, 333, 4}, {1, 167, 4}, {1, 166, 5}, {1, 100, 5}, {1, 99, 6}, {1, 50, 6}, {1, 49, 7},
-            {1, 29, 7}, {1, 28, 8}, {1, 15, 8}, {1, 14, 9}, {1, 8, 9}, {1, 7, 10}, {1, 4, 10}, {1, 3, 11}, {1, 2, 12}, {1, 1, -9}, {1, 0, -9},
+            {1, 29, 7}, {1, 28, 8}, {1, 15, 8}, {1, 14, 9}, {1, 8, 9}, {1, 7, 10}, {1, 4, 10}, {1, 3, 11}, {1, 2, 12}, {1, 1, -9},
+                {1, 0, -9},
             {2, 500, 1}, {2, 16, 6}, {2, 15, -9}, {3, 334, 1}, {3, 333, 2}, {3, 13, 4}, {3, 12, -9}};
         for (int[] one : sure) {
             b.due("fewest(" + one[0] + ", " + one[1] + ", 10, 1000)", x.fewest(one[0], one[1], 10, 1000), one[2]);
@@ -386,7 +405,8 @@ final class RulesBounds {
         b.sentence("-1; -4; -6.");
         int[] rights = Mixes.some(MIN_VALUE, -1, 0, 1, 2, 3, 4, 5, 6, MAX_VALUE);
         some.refused("believes", 0, (y, v) -> y.believes(v[0], v[1], v[2]), new int[][] {RULES, PLANS, rights},
-            Mixes.no(-1, v -> Given.noRule(v[0]) || Given.noPlan(v[1])), Mixes.no(-4, v -> v[2] < 0), Mixes.no(-6, v -> v[2] > Given.size(v[1])));
+            Mixes.no(-1, v -> Given.noRule(v[0]) || Given.noPlan(v[1])), Mixes.no(-4, v -> v[2] < 0),
+                Mixes.no(-6, v -> v[2] > Given.size(v[1])));
         b.allQuoted();
     }
 
@@ -433,7 +453,8 @@ final class RulesBounds {
         b.due("the greatest N there is", x.fewest(Given.FIXED, 2, 10, 1000), 12);
         b.due("none", x.fewest(Given.FIXED, 1, 10, 1000), -9);
         b.sentence("-2; -4; -6.");
-        some.refused("fewest", 0, (y, v) -> y.fewest(v[0], v[1], v[2], v[3]), new int[][] {Mixes.around(0, 3), THOUSANDTHS, ABLE, THOUSANDTHS},
+        some.refused("fewest", 0, (y, v) -> y.fewest(v[0], v[1], v[2], v[3]), new int[][] {Mixes.around(0, 3), THOUSANDTHS, ABLE,
+            THOUSANDTHS},
             Mixes.no(-2, v -> v[0] < 0 || v[0] > 3), Mixes.no(-4, v -> v[1] < 0 || v[2] < 0 || v[3] < 0),
             Mixes.no(-6, v -> v[1] > 1000 || v[2] > 10 || v[3] > 1000));
         b.allQuoted();
